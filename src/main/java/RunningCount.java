@@ -144,10 +144,7 @@ public final class RunningCount {
             return NONE;
         }
         int first = LAST_INSTANT + 1;
-        if (isBelow(shelf, item, 0)) {
-            first = 0;
-        }
-        // MOST falls only where a leg that leaves is over and where an adjustment stands
+        // a stock told is never below 0, and MOST falls only by legs that leave and by adjustments
         for (int move = 0; move < goods.moves; move++) {
             int leg = legOf(move, LEAVES);
             if (goods.moveItem[move] == item && goods.legShelf[leg] == shelf
@@ -329,7 +326,7 @@ public final class RunningCount {
         Act act = journal.begin(Act.DROPPED, count);
         act.shelf = tally.shelf[count];
         act.item = tally.item[count];
-        act.early = tally.instant[count];
+        act.instant = tally.instant[count];
         act.sum = tally.sum[count];
         act.who = tally.who[count];
         tally.remove(count);
@@ -363,7 +360,7 @@ public final class RunningCount {
                 tally.reopen(act.posted);
                 break;
             case Act.DROPPED:
-                tally.insert(act.number, act.shelf, act.item, act.early, act.sum, act.who);
+                tally.insert(act.number, act.shelf, act.item, act.instant, act.sum, act.who);
                 break;
             default:
                 break;
@@ -813,13 +810,16 @@ public final class RunningCount {
         private int kind;
         /** Of the move, the leg or the count. */
         private int number;
-        private int shelf;
-        private int item;
-        /** The instant of a dropped count, too. */
+        /** The span that a leg had. */
         private int early;
         private int late;
+        /** The count that was dropped. */
+        private int shelf;
+        private int item;
+        private int instant;
         private int sum;
         private int who;
+        /** Which counts were posted, as bits. */
         private long posted;
     }
 

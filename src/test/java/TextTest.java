@@ -107,6 +107,15 @@ public final class TextTest {
         good("shelves 2;item 0 0;move 0 1 from 0 0 999 to 1 5 6;", 3);
         good("shelves 1;" + Check.repeat("item 1 1;", 5), 6);
         good("shelves 1;item 1 1;" + Check.repeat("move 0 1;", 16), 18);
+        good("shelves 6;" + Check.repeat("item 1 1;", 5) + allStocks(), 36);
+    }
+
+    private static String allStocks() {
+        StringBuilder stocks = new StringBuilder();
+        for (int i = 0; i < 30; i++) {
+            stocks.append("stock ").append(i % 6).append(' ').append(i / 6).append(" 5;");
+        }
+        return stocks.toString();
     }
 
     private static void bad(String text, int place, int kind) {
@@ -160,6 +169,31 @@ public final class TextTest {
         bad("shelves 1;item 1 1;move 0 1 from 0 1 1 5;", 39, 1);
         bad("shelves 1;item 1 1;move 0 1 from 0 1 1000;", 37, 1);
         bad("shelves 1;item 1 1;move 0 1 from 0 1 1", 38, 1);
+        bad("shelves 1;item 1 item 1 1;", 17, 1);
+        bad("shelves 1;item 1 1;stock 0 0 stock 0 0 1;", 29, 1);
+        bad("shelves 1;item 1 1;stock 0 0 move 0 1;", 29, 1);
+        bad("shelves 1;item 1 1;move 0 move 0 1;", 26, 1);
+        bad("shelves 1;item 1 1;move 0 1 from 0 1 to 0 1 1;", 37, 1);
+        bad("shelves 1;item 1 1;move 0 1 from to 0 1 1;", 33, 1);
+        bad("shelves 1;item 1 1;move 0 1 from 0 1;move 0 1;", 36, 1);
+        bad("shelves 1;item 1 1;move 0 1 from 0 1 1 move 0 1;", 39, 1);
+        for (String word : new String[] {"1a", "1z", "a1", "z1", "1m1", "12345"}) {
+            bad("shelves " + word + ";", 8, 1);
+        }
+        for (String sign : new String[] {"`", "{", "/", ":", ".", "_", "A", "Z", "\r", "\t", "\0"}) {
+            bad("shelves 1" + sign + ";", 9, 1);
+            bad("shelves 1;" + sign, 10, 1);
+        }
+        for (String word : new String[] {"xhelves", "shelvex", "shelve", "shexves"}) {
+            bad(word + " 1;", 0, 1);
+        }
+        for (String word : new String[] {"xtem 1 1;", "itex 1 1;", "ite 1 1;", "xtock 0 0 1;", "stocx 0 0 1;",
+            "stoc 0 0 1;", "xove 0 1;", "movx 0 1;", "mov 0 1;"}) {
+            bad("shelves 1;item 1 1;" + word, 19, 1);
+        }
+        for (String word : new String[] {"xrom", "frox", "fro", "xo", "tx", "t", "fromm", "too"}) {
+            bad("shelves 1;item 1 1;move 0 1 " + word + " 0 1 1;", 28, 1);
+        }
         // a sixth item that can't come at all is the fault that stands first
         bad("shelves 1;" + Check.repeat("item 1 1;", 5) + "stock 0 0 1;item 1 1;", 67, 1);
     }
@@ -174,6 +208,8 @@ public final class TextTest {
         bad("shelves 2;item 1 1;stock 2 0 1;", 25, 2);
         bad("shelves 2;item 1 1;stock 1 1 1;", 27, 2);
         bad("shelves 2;item 1 1;item 1 1;stock 1 1 1;stock 1 0 1;stock 0 1 1;stock 1 1 1;", 72, 2);
+        bad("shelves 6;" + Check.repeat("item 1 1;", 5) + allStocks() + "stock 5 4 5;", 423, 2);
+        bad("shelves 1;item 1 1;stock 0 0 1;stock 0 0 x", 39, 2);
         bad("shelves 1;move 0 1;", 15, 2);
         bad("shelves 1;item 1 1;move 1 1;", 24, 2);
         bad("shelves 1;item 1 1;move 0 0;", 26, 2);
