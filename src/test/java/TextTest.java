@@ -175,6 +175,9 @@ public final class TextTest {
         bad("shelves 1;item 1 1;move 0 move 0 1;", 26, 1);
         bad("shelves 1;item 1 1;move 0 1 from 0 1 to 0 1 1;", 37, 1);
         bad("shelves 1;item 1 1;move 0 1 from to 0 1 1;", 33, 1);
+        bad("shelves 1;item 1 1;move 0 1 from 0 to 0 1 1;", 35, 1);
+        bad("shelves 1;item 1 1;move 0 1 from 0;", 34, 1);
+        bad("shelves 1;item 1 1;move 0 1 to;", 30, 1);
         bad("shelves 1;item 1 1;move 0 1 from 0 1;move 0 1;", 36, 1);
         bad("shelves 1;item 1 1;move 0 1 from 0 1 1 move 0 1;", 39, 1);
         for (String word : new String[] {"1a", "1z", "a1", "z1", "1m1", "12345"}) {
