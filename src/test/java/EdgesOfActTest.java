@@ -184,6 +184,18 @@ public final class EdgesOfActTest {
         }
         RunningCount y = Check.of("shelves 2;item 0 0;move 0 5 from 0 0 999;");
         CHECK.due("to its first instant", y.narrow(0, 0, 0, 0), 999);
+        for (int move = 1; move < 40; move++) {
+            y.moves(0, 1);
+            y.leg(move, 0, 0, 10, 20);
+            y.leg(move, 1, 0, 30, 40);
+            CHECK.due("LEG 0 of " + move, y.narrow(move, 0, 11, 18), 3);
+            CHECK.due("LEG 1 of " + move, y.narrow(move, 1, 32, 39), 3);
+            int[] want = {11, 18, 32, 39};
+            int[] whats = {11, 12, 21, 22};
+            for (int i = 0; i < whats.length; i++) {
+                CHECK.due("move(" + move + ", " + whats[i] + ")", Check.move(y, move, whats[i]), want[i]);
+            }
+        }
     }
 
     private static void narrowAsItIs() {
@@ -321,6 +333,18 @@ public final class EdgesOfActTest {
         CHECK.due("undo the drop", x.undo(), 6);
         CHECK.due("as it was", before.equals(Check.all(x)), true);
         CHECK.due("its number", Check.count(x, 1, 3), 555);
+        RunningCount y = Check.of("shelves 4;item 9 0;item 9 0;item 9 0;");
+        y.counts(3, 2, 44, 555, 3);
+        y.counts(2, 1, 1, 7, 1);
+        y.post(2, 1);
+        CHECK.due("drop ahead of a posted one", y.drop(0), true);
+        CHECK.due("undo the drop", y.undo(), 3);
+        int[][] want = {{3, 2, 44, 555, 3, 0, 9}, {2, 1, 1, 7, 1, 1, 9}};
+        for (int count = 0; count < 2; count++) {
+            for (int what = 0; what < 7; what++) {
+                CHECK.due("count(" + count + ", " + what + ")", Check.count(y, count, what), want[count][what]);
+            }
+        }
     }
 
     private static void undoThenOtherActs() {
@@ -364,6 +388,21 @@ public final class EdgesOfActTest {
             CHECK.due("count(0, 0)", Check.count(x, 0, 0), Check.THROWS);
             CHECK.due("adjusted(0, 0)", x.adjusted(0, 0), Check.NO_SUM);
             CHECK.same("text " + text, x, Check.of(text));
+        }
+        // rows that older texts have filled
+        RunningCount y = Check.busy();
+        for (int i = 0; i < 3; i++) {
+            Check.tell(y, texts[1]);
+            CHECK.same("the same text", y, Check.of(texts[1]));
+            CHECK.due("a count", y.counts(0, 0, 150, 47, 0), 0);
+            CHECK.due("it is open", Check.count(y, 0, 5), 0);
+            CHECK.due("now(4)", y.now(4), 1);
+            CHECK.due("a move", y.moves(1, 9), 4);
+            CHECK.due("without LEG 0", Check.move(y, 4, 10), NONE);
+            CHECK.due("without LEG 1", Check.move(y, 4, 20), NONE);
+            CHECK.due("post", y.post(0, 0), 0);
+            Check.tell(y, texts[i]);
+            CHECK.same("another text", y, Check.of(texts[i]));
         }
     }
 
@@ -447,8 +486,8 @@ public final class EdgesOfActTest {
             CHECK.same(refused.told, x, full());
         }
         RunningCount y = Check.busy();
-        while (y.now(6) > 0) {
-            y.undo();
+        for (int more = 9; more >= 0; more--) {
+            CHECK.due("undo()", y.undo(), more);
         }
         String before = Check.all(y);
         CHECK.due("undo()", y.undo(), NONE);

@@ -295,7 +295,7 @@ public final class EdgesOfBookTest {
     private static void belowNone() {
         CHECK.says("below: NONE: there is none, no such ones.");
         RunningCount x = Check.of("shelves 2;item 0 0;item 0 0;stock 0 0 5;move 0 5 from 0 10 20;move 1 1 from 0 5 5;"
-                + "move 0 1 from 1 5 5;");
+                + "move 0 1 from 1 5 5;move 0 1;move 1 1 to 0 9 9;");
         CHECK.due("just nothing left", x.below(0, 0), NONE);
         CHECK.due("of nothing", x.below(1, 1), NONE);
         CHECK.due("of the other item", x.below(0, 1), 5);

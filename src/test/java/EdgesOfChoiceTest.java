@@ -67,6 +67,18 @@ public final class EdgesOfChoiceTest {
         CHECK.due("without the posted one", x.chosen(0, 0), 2);
         x.drop(2);
         CHECK.due("without the dropped one", x.chosen(0, 0), 1);
+        // those at the first and the last instants, too
+        RunningCount y = Check.of("shelves 1;item 5 0;stock 0 0 100;");
+        y.counts(0, 0, 0, 120, 0);
+        y.counts(0, 0, 999, 124, 1);
+        CHECK.due("of two", y.chosen(0, 0), 1);
+        y.counts(0, 0, 1, 130, 2);
+        CHECK.due("of three", y.chosen(0, 0), 1);
+        y.counts(0, 0, 998, 125, 3);
+        CHECK.due("of the last three", y.chosen(0, 0), 3);
+        RunningCount z = Check.of("shelves 1;item 5 0;stock 0 0 100;");
+        z.counts(0, 0, 999, 106, 0);
+        CHECK.due("of one", z.chosen(0, 0), RECOUNT);
     }
 
     private static void chosenWithoutAny() {

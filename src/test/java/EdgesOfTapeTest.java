@@ -159,6 +159,11 @@ public final class EdgesOfTapeTest {
         text.append(Check.repeat("move 0 1;", 16));
         CHECK.due("bytes", text.length(), 559);
         CHECK.due("all there can be", Check.tell(new RunningCount(), text.toString()), 52);
+        RunningCount x = new RunningCount();
+        for (int i = 0; i < 3; i++) {
+            CHECK.due("of this text alone", Check.tell(x, "shelves 2;item 1 1;"), 2);
+            Check.tell(x, "shelves 2;item 1 1;item 2 2;x");
+        }
     }
 
     private static void textWithFaultLeavesAll() {
@@ -173,6 +178,10 @@ public final class EdgesOfTapeTest {
             CHECK.due("text of " + faulty[i], Check.tell(x, faulty[i]), -1 - places[i]);
             Check.tell(twin, "?");
             CHECK.same("text of " + faulty[i], x, twin);
+            // nor does anything of it stay for the next text
+            String next = "shelves 2;item 1 1;stock 1 0 5;move 0 1;";
+            CHECK.due("the next text", Check.tell(x, next), 4);
+            CHECK.same("the next text", x, Check.of(next));
         }
     }
 
